@@ -11,6 +11,7 @@ public final class SyllableBook {
     private static final int MAX_WORD_LETTERS = 12;
     private static final int MAX_COUNT = 99;
     private static final int MAX_PAD = 16;
+    private static final int MAX_PUT = 8;
     private static final int MAX_HISTORY = 6;
     private static final int SLOTS = 2;
 
@@ -421,7 +422,7 @@ public final class SyllableBook {
     private static int charactersIn(long characters) {
         long rest = characters;
         int given = 0;
-        for (int i = 0; i < Long.SIZE / CHARACTER_BITS && rest != 0; i++) {
+        for (int i = 0; i < MAX_PUT && rest != 0; i++) {
             int code = (int) (rest & 255);
             if (code < FIRST_CHARACTER || code > LAST_CHARACTER) {
                 return 0;

@@ -122,6 +122,9 @@ public final class CutTest {
         Check.due("count: what 8", book.count(8), SyllableBook.BAD_VALUE);
         Check.due("count: what -1", book.count(-1), SyllableBook.BAD_VALUE);
         Check.due("count: greatest what", book.count(Integer.MAX_VALUE), SyllableBook.BAD_VALUE);
+        SyllableBook uneven = Check.book("ab 3", "abcdef 2,ab 5");
+        Check.due("count: parts of uneven words", uneven.count(4), 2 * 5 + 5);
+        Check.due("count: unseen of uneven words", uneven.count(5), 2 * 4);
         String word = "abcdefabcdef 99";
         SyllableBook full = Check.book("", String.join(",", java.util.Collections.nCopies(8, word)));
         Check.due("count: the greatest cost", full.count(2), 8 * 24 * 99);

@@ -52,6 +52,8 @@ public final class GrowTest {
         grows("ab 7,cd 5", "abcd 1", "abcd", 1, 5);
         grows("ab 5,cd 7", "abcd 1", "abcd", 1, 5);
         grows("ab 5", "abc 1", "abc", 1, 1);
+        // 36 texts stand there, and the last one the most often
+        grows("", "abacadaeafa 1,bbcbdbebfb 1,ccdcecfcc 1,ddedfddd 1,eefee 1,fff 3", "ff", 6, 1);
         SyllableBook book = Check.book("", "abc 3");
         book.grow();
         Check.due("grow: is a change", book.count(7), 2);
@@ -128,6 +130,16 @@ public final class GrowTest {
         Check.due("tune: b of rounded shares, ab", rounded.ofPiece(1, 8), 1998);
         Check.due("tune: rounded", rounded.tune(), 2);
         Check.same("tune: rounded weights", Check.contents(rounded), "a 5,ab 9, /ab 3,");
+        SyllableBook unasked = Check.book("a 1,ab 2", "ab 3");
+        Check.due("tune: nothing asked ahead of it", unasked.tune(), 2);
+        Check.same("tune: nothing asked ahead of it", Check.contents(unasked), "a 5,ab 9, /ab 3,");
+        // abcd 1 of 2 cuts, a to d in the other one; fe never
+        SyllableBook full = Check.book(SIXTEEN, "abcd 1");
+        full.weigh(4, 7);
+        Check.due("tune: 16 pieces", full.tune(), 6);
+        Check.due("tune: the 16th piece", full.ofPiece(15, 1), 9);
+        Check.due("tune: the first of 16", full.ofPiece(0, 1), 9);
+        Check.due("tune: the fifth of 16", full.ofPiece(4, 1), 1);
         SyllableBook greatest = Check.book("a 9,b 1", String.join(",",
                 java.util.Collections.nCopies(8, "aaaaaaaaaaaa 99")));
         Check.due("tune: the greatest b", greatest.ofPiece(0, 8), 8 * 99 * 12000);

@@ -9,6 +9,7 @@ public final class HistoryTest {
         sixStates();
         undoOfAll();
         saving();
+        fullBook();
         restoring();
         slotErrors();
         Check.finish("HistoryTest");
@@ -132,6 +133,27 @@ public final class HistoryTest {
         Check.piece(empty, "a", 1);
         Check.due("restore: an empty book", empty.restore(1), 0);
         Check.same("restore: an empty book", Check.contents(empty), " /");
+    }
+
+    private static void fullBook() {
+        StringBuilder words = new StringBuilder("abcdefabcdef 1");
+        for (int count = 2; count <= 8; count++) {
+            words.append(",fedcba").append("abcdef", 0, count - 2).append(' ').append(count);
+        }
+        String pieces = "a 1,b 2,c 3,d 4,e 5,f 6,aa 7,bb 8,cc 9,dd 1,ee 2,ff 3,aaa 4,bbb 5,ccc 6,abcd 7";
+        SyllableBook book = Check.book(pieces, words.toString());
+        String full = Check.contents(book);
+        Check.due("save: a full book", book.save(1), 16);
+        book.shrink(0);
+        book.forget(0);
+        Check.word(book, "aaaaaaaaaaaa", 9);
+        book.undo();
+        book.undo();
+        book.undo();
+        Check.same("undo: a full book", Check.contents(book), full);
+        book.forget(0);
+        Check.due("restore: a full book", book.restore(1), 16);
+        Check.same("restore: a full book", Check.contents(book), full);
     }
 
     private static void restoring() {

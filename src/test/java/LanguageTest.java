@@ -21,8 +21,9 @@ public final class LanguageTest {
             "int put(long)", "int wipe()", "int fault()", "int undo()", "int save(int)", "int restore(int)"));
     private static final Set<String> CONSTANTS = Set.of(
             "NO_SUCH", "BAD_VALUE", "BAD_TEXT", "TOO_MANY", "NOT_POSSIBLE", "NONE");
+    private static final Set<String> LIBRARY = Set.of("Math.min", "Math.max", "System.arraycopy", "Arrays.fill");
     private static final String FORBIDDEN_WORDS = "throw|throws|try|catch|finally|synchronized|assert|volatile|native"
-            + "|System\\.(?!arraycopy)|Thread|Random|Exact|hashCode|toString|->|::|import (?!java\\.util\\.Arrays;)";
+            + "|System\\.(?!arraycopy)|Thread|Random|Exact|hashCode|toString|->|::|import";
 
     public static void main(String[] args) throws Exception {
         constants();
@@ -95,10 +96,16 @@ public final class LanguageTest {
 
     private static void text() throws Exception {
         String text = Files.readString(Path.of("src/main/java/SyllableBook.java"));
-        String code = text.replaceAll("//[^\n]*", "").replaceAll("(?s)/\\*.*?\\*/", "");
+        String code = text.replaceAll("//[^\n]*", "").replaceAll("(?s)/\\*.*?\\*/", "")
+                .replace("import java.util.Arrays;", "");
         Matcher found = Pattern.compile("(?<!\\w)(" + FORBIDDEN_WORDS + ")").matcher(code);
         while (found.find()) {
             Check.isTrue("no '" + found.group() + "' in the class", false);
+        }
+        Matcher library = Pattern.compile("\\b(?:Math|System|Arrays|Integer|Long|String|StringBuilder|List)\\.\\w+").matcher(code);
+        while (library.find()) {
+            String used = library.group();
+            Check.isTrue(used + " is of the library that may be used", LIBRARY.contains(used));
         }
         Check.isTrue("signs 1 to 127", text.chars().allMatch(sign -> sign > 0 && sign < 128));
         Check.isTrue("no package line", !code.contains("package "));

@@ -86,7 +86,9 @@ public final class WordTest {
         Check.due("forget: number 8 of 8", full.forget(8), SyllableBook.NO_SUCH);
         Check.due("forget: the first of 8", full.forget(0), 7);
         Check.same("forget: all moved up", Check.contents(full), " /b 2,c 3,d 4,e 5,f 6,abcdefabcdef 7,a 8,");
-        Check.due("forget: makes room", Check.word(full, "b", 1), 7);
+        Check.due("forget: the sixth of 7", full.forget(5), 6);
+        Check.same("forget: the last moved up", Check.contents(full), " /b 2,c 3,d 4,e 5,f 6,a 8,");
+        Check.due("forget: makes room", Check.word(full, "b", 1), 6);
     }
 
     private static void aboutWords() {
