@@ -9,6 +9,7 @@ public final class ChangesEdgeTest {
     private static final int[] NO_SIZES = {-1, 17, -16, 256, 65536, Edge.LEAST, Edge.GREATEST};
 
     public static void main(String[] args) {
+        ranges();
         pieces();
         weights();
         drops();
@@ -96,6 +97,30 @@ public final class ChangesEdgeTest {
         }
         for (int weight : NO_WEIGHTS) {
             Edge.refused("weight " + weight, Edge.few("fed"), book -> book.piece(weight), Edge.BAD_VALUE);
+        }
+    }
+
+    private static void ranges() {
+        for (int promise = 2; promise <= 3; promise++) {
+            Edge.promise(promise, "`weight`: 1 to 9");
+            for (int weight = -1; weight <= 11; weight++) {
+                boolean fits = weight >= 1 && weight <= 9;
+                SyllableBook book = Edge.few("fed").get();
+                Edge.due("weight " + weight, promise == 2 ? book.piece(weight) : book.weigh(1, weight), fits ? 3 : Edge.BAD_VALUE);
+                Edge.due("weight " + weight + " then", book.ofPiece(promise == 2 ? 3 : 1, 1),
+                        fits ? weight : promise == 2 ? Edge.NO_SUCH : 3);
+            }
+        }
+        for (int promise = 5; promise <= 6; promise++) {
+            Edge.promise(promise, "`count`: 1 to 99");
+            for (int count = -1; count <= 101; count++) {
+                boolean fits = count >= 1 && count <= 99;
+                SyllableBook book = Edge.few("fed").get();
+                Edge.due("count " + count, promise == 5 ? book.word(count) : book.recount(1, count),
+                        fits ? promise == 5 ? 2 : 99 : Edge.BAD_VALUE);
+                Edge.due("count " + count + " then", book.ofWord(promise == 5 ? 2 : 1, 1),
+                        fits ? count : promise == 5 ? Edge.NO_SUCH : 99);
+            }
         }
     }
 
@@ -399,6 +424,13 @@ public final class ChangesEdgeTest {
         grows("an unseen one first", "bc 9", "abc 1", "abc", 1);
         grows("an unseen one second", "ab 9", "abc 1", "abc", 1);
         grows("two unseen ones", "", "ab 1", "ab", 1);
+        Edge.promise(8, "(of the first place in the words, in their order, where it stands so)");
+        grows("in two words", "ab 2,c 5", "abc 1,fabc 1", "abc", 2);
+        grows("in two words, the other way round", "ab 2,c 5", "fabc 1,abc 1", "abc", 2);
+        grows("twice in a word", "ab 7,c 5", "abcabc 1", "abc", 5);
+        Edge.promise(8, "Returns its number");
+        Edge.due("the first", Check.book("", "ab 1").grow(), 0);
+        Edge.due("the second", Check.book("f 1", "ab 1").grow(), 1);
     }
 
     private static void growErrors() {
@@ -426,6 +458,17 @@ public final class ChangesEdgeTest {
     // ---- promise 9
 
     private static void tuning() {
+        tuneB();
+        tuneWeights();
+        tuneWithoutB();
+        tuneAhead();
+        tuneHowMany();
+        isChange(9, Edge.few("ab"), SyllableBook::tune);
+        isChange(9, Edge.full("ab"), SyllableBook::tune);
+        isChange(9, Edge.empty("ab"), SyllableBook::tune);
+    }
+
+    private static void tuneWeights() {
         Edge.promise(9, "the weight of each piece becomes 1 + 8 * its b / the greatest b");
         // b: a 99000, b 12000, c 13000, d 0: 8 * 12 / 99 is below 1, 8 * 13 / 99 above it
         SyllableBook book = Check.book("a 2,b 3,c 5,d 7", "a 99,b 12,c 13");
@@ -445,12 +488,24 @@ public final class ChangesEdgeTest {
         Edge.due("a share of 0 thousandths", tiny.ofPiece(0, 8), 0);
         tiny.tune();
         Edge.same("a share of 0 thousandths", Check.contents(tiny), "aaab 1,a 9,b 3, /aaab 99,");
-        tuneWithoutB();
-        tuneAhead();
-        tuneHowMany();
-        isChange(9, Edge.few("ab"), SyllableBook::tune);
-        isChange(9, Edge.full("ab"), SyllableBook::tune);
-        isChange(9, Edge.empty("ab"), SyllableBook::tune);
+    }
+
+    private static void tuneB() {
+        Edge.promise(9, "with b for the sum, over all words, of the count times the share of a piece");
+        // a stands once in a word of the count 8, b eight times in one of the count 1
+        SyllableBook book = Check.book("a 1,b 1", "a 8,bbbbbbbb 1");
+        Edge.due("count and share: how many", book.tune(), 2);
+        Edge.same("count and share", Check.contents(book), "a 9,b 9, /a 8,bbbbbbbb 1,");
+        // 40 and 40 against 80 and 0
+        SyllableBook sum = Check.book("a 1,b 1,c 1", "a 40,b 80,a 40,c 10");
+        sum.tune();
+        Edge.same("over all words", Check.contents(sum), "a 9,b 9,c 2, /a 40,b 80,a 40,c 10,");
+        // The shares of a and ab, 1000 / 3 and 2000 / 3, are 333 and 666: three times 999 and 1998, just below 2000.
+        SyllableBook rounded = Check.book("a 1,ab 2,f 1", "ab 3,f 2");
+        Edge.due("of shares that are rounded down", rounded.ofPiece(0, 8), 999);
+        Edge.due("of shares that are rounded down", rounded.ofPiece(1, 8), 1998);
+        rounded.tune();
+        Edge.same("of shares that are rounded down", Check.contents(rounded), "a 4,ab 8,f 9, /ab 3,f 2,");
     }
 
     private static void tuneWithoutB() {
@@ -527,6 +582,13 @@ public final class ChangesEdgeTest {
         Edge.due("the pad stays", book.count(6), 3);
         Edge.due("the words stay", book.count(1), 8);
         shrinkLosses();
+        Edge.promise(10, "`size`: 0 to 16");
+        for (int size = -1; size <= 17; size++) {
+            boolean fits = size >= 0 && size <= 16;
+            SyllableBook sized = Edge.full("").get();
+            Edge.due("size " + size, sized.shrink(size), fits ? 16 - size : Edge.BAD_VALUE);
+            Edge.due("size " + size + ", pieces", sized.count(0), fits ? size : 16);
+        }
         Edge.promise(10, "BAD_VALUE if size is out of range");
         for (int size : NO_SIZES) {
             Edge.refused("size " + size + ", few", Edge.few("ab"), b -> b.shrink(size), Edge.BAD_VALUE);

@@ -8,7 +8,6 @@ public final class GrowTest {
         growing();
         tuning();
         shrinking();
-        shrinkErrors();
         leastPiece();
         Check.finish("GrowTest");
     }
@@ -182,16 +181,6 @@ public final class GrowTest {
         Check.due("shrink: empty book", new SyllableBook().shrink(0), 0);
         Check.due("shrink: 16 to 0", Check.book(SIXTEEN, "abcd 9,fe 1").shrink(0), 16);
         Check.due("shrink: 16 to 16", Check.book(SIXTEEN, "").shrink(16), 0);
-    }
-
-    private static void shrinkErrors() {
-        SyllableBook book = Check.book("a 1,b 2", "ab 1");
-        String before = Check.everything(book);
-        Check.due("shrink: size 17", book.shrink(17), SyllableBook.BAD_VALUE);
-        Check.due("shrink: size -1", book.shrink(-1), SyllableBook.BAD_VALUE);
-        Check.due("shrink: least size", book.shrink(Integer.MIN_VALUE), SyllableBook.BAD_VALUE);
-        Check.due("shrink: greatest size", book.shrink(Integer.MAX_VALUE), SyllableBook.BAD_VALUE);
-        Check.same("shrink: an error changes nothing", Check.everything(book), before);
     }
 
     private static void leastPiece() {

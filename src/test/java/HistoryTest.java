@@ -11,7 +11,6 @@ public final class HistoryTest {
         saving();
         fullBook();
         restoring();
-        slotErrors();
         Check.finish("HistoryTest");
     }
 
@@ -177,18 +176,5 @@ public final class HistoryTest {
         undone.save(0);
         undone.undo();
         Check.due("restore: undo leaves the slots", undone.restore(0), 1);
-    }
-
-    private static void slotErrors() {
-        SyllableBook book = Check.book(PIECES, WORDS);
-        book.save(0);
-        String before = Check.everything(book);
-        for (int slot : new int[] {-1, 2, Integer.MAX_VALUE, Integer.MIN_VALUE}) {
-            Check.due("save: slot " + slot, book.save(slot), SyllableBook.BAD_VALUE);
-            Check.due("restore: slot " + slot, book.restore(slot), SyllableBook.BAD_VALUE);
-        }
-        Check.due("restore: nothing saved", book.restore(1), SyllableBook.NOT_POSSIBLE);
-        Check.same("save, restore: an error changes nothing", Check.everything(book), before);
-        Check.due("undo: an empty history", new SyllableBook().undo(), SyllableBook.NOT_POSSIBLE);
     }
 }

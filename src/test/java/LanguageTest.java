@@ -13,25 +13,43 @@ import java.util.regex.Pattern;
 
 /** The face and the rules of LANGUAGE.md, as far as a test can see them; run from the project's folder. */
 public final class LanguageTest {
-    private static final Set<String> FACE = new TreeSet<>(List.of(
-            "int piece(int)", "int weigh(int,int)", "int drop(int)", "int word(int)", "int recount(int,int)",
-            "int forget(int)", "int grow()", "int tune()", "int shrink(int)", "int ofPiece(int,int)",
-            "int ofWord(int,int)", "int letter(int,int)", "long product(int,int)", "int part(int,int,int)",
-            "int share(int,int)", "int count(int)", "int costWith(int)", "int growing(int)", "int least()",
-            "int put(long)", "int wipe()", "int fault()", "int undo()", "int save(int)", "int restore(int)"));
-    private static final Set<String> CONSTANTS = Set.of(
-            "NO_SUCH", "BAD_VALUE", "BAD_TEXT", "TOO_MANY", "NOT_POSSIBLE", "NONE");
+    private static final Set<String> FACE = new TreeSet<>();
+    private static final Set<String> CONSTANTS = new TreeSet<>();
+    private static final int MOST_LINES = 60;
+    private static final int MOST_PARAMETERS = 7;
     private static final Set<String> LIBRARY = Set.of("Math.min", "Math.max", "System.arraycopy", "Arrays.fill");
     private static final String FORBIDDEN_WORDS = "throw|throws|try|catch|finally|synchronized|assert|volatile|native"
             + "|System\\.(?!arraycopy)|Thread|Random|Exact|hashCode|toString|->|::|import";
 
     public static void main(String[] args) throws Exception {
+        readFace();
         constants();
         face();
         classesInside();
         text();
+        methodLengths();
         room();
         Check.finish("LanguageTest");
+    }
+
+    /** The face as the document's code block has it. */
+    private static void readFace() throws Exception {
+        String document = Files.readString(Path.of("../shared/DOC.md"));
+        int from = document.indexOf("```java");
+        String block = document.substring(from, document.indexOf("```", from + 3));
+        Matcher method = Pattern.compile("public (\\w+ \\w+)\\(([^)]*)\\);").matcher(block);
+        while (method.find()) {
+            FACE.add(method.group(1) + "(" + method.group(2).replaceAll(" \\w+(?=,|$)", "").replace(" ", "") + ")");
+        }
+        Matcher constant = Pattern.compile("([A-Z_]+) = -\\d").matcher(block);
+        while (constant.find()) {
+            CONSTANTS.add(constant.group(1));
+        }
+        Check.due("methods of the document", FACE.size(), 25);
+        Check.due("constants of the document", CONSTANTS.size(), 6);
+        Check.isTrue("put is one of them", FACE.contains("int put(long)"));
+        Check.isTrue("part is one of them", FACE.contains("int part(int,int,int)"));
+        Check.isTrue("product is one of them", FACE.contains("long product(int,int)"));
     }
 
     private static void constants() {
@@ -70,9 +88,15 @@ public final class LanguageTest {
             Check.isTrue(field + " is private or a constant of the document",
                     isPrivate(field) || CONSTANTS.contains(field.getName()));
             Check.isTrue(field + " is final", Modifier.isFinal(field.getModifiers()));
+            boolean isOpen = Modifier.isPublic(field.getModifiers()) && field.getType() == int.class;
+            Check.isTrue(field + " is an open constant, if the document has it", isOpen == CONSTANTS.contains(field.getName()));
         }
         Check.isTrue("public final class", Modifier.isFinal(SyllableBook.class.getModifiers()));
-        Check.due("constructors", SyllableBook.class.getDeclaredConstructors().length, 1);
+        Check.due("constructors", SyllableBook.class.getConstructors().length, 1);
+        Check.due("constructors, hidden ones too", SyllableBook.class.getDeclaredConstructors().length, 1);
+        Check.due("its parameters", SyllableBook.class.getConstructors()[0].getParameterCount(), 0);
+        Check.isTrue("the class is public", Modifier.isPublic(SyllableBook.class.getModifiers()));
+        Check.isTrue("it stands in no package", SyllableBook.class.getPackageName().isEmpty());
     }
 
     private static String nameIn(String signature) {
@@ -81,8 +105,10 @@ public final class LanguageTest {
 
     private static void classesInside() {
         Class<?>[] inside = SyllableBook.class.getDeclaredClasses();
+        noStaticState(SyllableBook.class);
         Check.isTrue("at most some twelve classes", inside.length < 12);
         for (Class<?> one : inside) {
+            noStaticState(one);
             Check.isTrue(one + " is static", Modifier.isStatic(one.getModifiers()));
             Check.isTrue(one + " is not public or protected",
                     (one.getModifiers() & (Modifier.PUBLIC | Modifier.PROTECTED)) == 0);
@@ -90,6 +116,36 @@ public final class LanguageTest {
             for (Method method : one.getDeclaredMethods()) {
                 boolean named = FACE.stream().anyMatch(signature -> nameIn(signature).equals(method.getName()));
                 Check.isTrue(method + " is not called as a public one", !named);
+            }
+        }
+    }
+
+    /** No static state: constants of numbers, truth values or texts alone. */
+    private static void noStaticState(Class<?> one) {
+        for (Field field : one.getDeclaredFields()) {
+            if (Modifier.isStatic(field.getModifiers()) && !field.isSynthetic()) {
+                Check.isTrue(field + " is a constant", Modifier.isFinal(field.getModifiers())
+                        && (field.getType().isPrimitive() || field.getType() == String.class));
+            }
+        }
+        for (Method method : one.getDeclaredMethods()) {
+            Check.isTrue(method + " has not too many parameters", method.getParameterCount() <= MOST_PARAMETERS);
+        }
+    }
+
+    private static void methodLengths() throws Exception {
+        int from = 0;
+        int at = 0;
+        String name = "";
+        for (String line : Files.readAllLines(Path.of("src/main/java/SyllableBook.java"))) {
+            at++;
+            if (line.matches("( {4}| {8})(\\w+ )*\\w+(\\[\\])?( \\w+)?\\(.*\\) \\{")) {
+                from = at;
+                name = line.trim();
+            }
+            if (line.matches("( {4}| {8})\\}") && from > 0) {
+                Check.isTrue(name + " has at most some " + MOST_LINES + " lines", at - from < MOST_LINES);
+                from = 0;
             }
         }
     }

@@ -312,6 +312,14 @@ final class Model {
         return place < text.length() ? text.charAt(place) - 'a' : -6;
     }
 
+    int weight(int piece) {
+        return pieces.get(piece).weight();
+    }
+
+    int times(int word) {
+        return words.get(word).count();
+    }
+
     int ofPiece(int number, int what) {
         if (!isPiece(number)) {
             return -1;

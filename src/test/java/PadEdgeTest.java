@@ -11,6 +11,7 @@ public final class PadEdgeTest {
         putNothing();
         putCodes();
         putBitsAbove();
+        putNoMore();
         putTooMany();
         putErrorOrder();
         wipe();
@@ -114,6 +115,18 @@ public final class PadEdgeTest {
             Edge.due("none above " + (given + 1), new SyllableBook().put(right), given + 1);
         }
         Edge.refused("the least", Edge.few("ab"), book -> book.put(Long.MIN_VALUE), Edge.BAD_VALUE);
+    }
+
+    private static void putNoMore() {
+        Edge.promise(21, "8 bits that are 0 mean that there are no more characters, and everything above them has to be 0, too");
+        Edge.due("8 bits of 0 above one", new SyllableBook().put(0x61L), 1);
+        Edge.due("8 bits of 0 above seven", new SyllableBook().put(0x61616161616161L), 7);
+        Edge.due("no bits left above eight", new SyllableBook().put(0x6161616161616161L), 8);
+        for (int place = 0; place < 7; place++) {
+            long gap = withCode(place, 0);
+            Edge.refused("0 among eight, " + place + " behind it", Edge.few("ab"), book -> book.put(gap), Edge.BAD_VALUE);
+        }
+        Edge.due("0 on top of eight", new SyllableBook().put(withCode(7, 0)), 7);
     }
 
     private static void putTooMany() {
@@ -405,6 +418,12 @@ public final class PadEdgeTest {
     }
 
     private static void restoreErrors() {
+        Edge.promise(26, "`slot`: 0 or 1");
+        for (int slot = -1; slot <= 2; slot++) {
+            SyllableBook book = Edge.full("").get();
+            Edge.due("slot " + slot, book.restore(slot), slot == 0 ? 11 : slot == 1 ? 16 : Edge.BAD_VALUE);
+            Edge.due("slot " + slot + ", words then", book.count(1), slot == 0 || slot == 1 ? 1 : 8);
+        }
         Edge.promise(26, "BAD_VALUE if there is no such slot");
         for (int slot : NO_SLOTS) {
             Edge.refused("slot " + slot + ", empty", Edge.empty("ab"), book -> book.restore(slot), Edge.BAD_VALUE);

@@ -6,8 +6,6 @@ public final class PieceTest {
     public static void main(String[] args) {
         newObject();
         pieces();
-        pieceErrors();
-        pieceErrorOrder();
         weights();
         drops();
         aboutPieces();
@@ -42,47 +40,6 @@ public final class PieceTest {
         Check.same("piece: the 16th", Check.pieceText(full, 15), "abcd");
     }
 
-    private static void pieceErrors() {
-        pieceError("empty pad", "", "", 1, SyllableBook.BAD_TEXT);
-        pieceError("5 letters", "", "abcde", 1, SyllableBook.BAD_TEXT);
-        pieceError("16 letters", "", "aaaaaaaaaaaaaaaa", 1, SyllableBook.BAD_TEXT);
-        pieceError("no letter g", "", "abg", 1, SyllableBook.BAD_TEXT);
-        pieceError("no letter `", "", "`a", 1, SyllableBook.BAD_TEXT);
-        pieceError("a capital", "", "aA", 1, SyllableBook.BAD_TEXT);
-        pieceError("weight 0", "", "a", 0, SyllableBook.BAD_VALUE);
-        pieceError("weight 10", "", "a", 10, SyllableBook.BAD_VALUE);
-        pieceError("weight -1", "", "a", -1, SyllableBook.BAD_VALUE);
-        pieceError("least weight", "", "a", Integer.MIN_VALUE, SyllableBook.BAD_VALUE);
-        pieceError("greatest weight", "", "a", Integer.MAX_VALUE, SyllableBook.BAD_VALUE);
-        pieceError("a 17th", SIXTEEN, "ab", 1, SyllableBook.TOO_MANY);
-        pieceError("such a piece", FOUR_PIECES, "ab", 1, SyllableBook.NOT_POSSIBLE);
-        pieceError("such a last piece", FOUR_PIECES, "bcd", 9, SyllableBook.NOT_POSSIBLE);
-        Check.due("piece: like one that was dropped", pieceAfterDrop(), 3);
-    }
-
-    private static int pieceAfterDrop() {
-        SyllableBook book = Check.book(FOUR_PIECES, "");
-        book.drop(1);
-        return Check.piece(book, "ab", 1);
-    }
-
-    private static void pieceErrorOrder() {
-        pieceError("text ahead of weight", SIXTEEN, "abg", 0, SyllableBook.BAD_TEXT);
-        pieceError("weight ahead of the number", SIXTEEN, "ab", 0, SyllableBook.BAD_VALUE);
-        pieceError("weight ahead of such a piece", FOUR_PIECES, "ab", 10, SyllableBook.BAD_VALUE);
-        pieceError("number ahead of such a piece", SIXTEEN, "abcd", 1, SyllableBook.TOO_MANY);
-    }
-
-    /** piece and costWith have the same errors, and neither changes anything then. */
-    private static void pieceError(String what, String pieces, String pad, int weight, int error) {
-        SyllableBook book = Check.book(pieces, "abab 2");
-        Check.fill(book, pad);
-        String before = Check.everything(book);
-        Check.due("costWith: " + what, book.costWith(weight), error);
-        Check.due("piece: " + what, book.piece(weight), error);
-        Check.same("piece, costWith: " + what + " change nothing", Check.everything(book), before);
-    }
-
     private static void weights() {
         SyllableBook book = Check.book(FOUR_PIECES, "");
         Check.due("weigh: to 1", book.weigh(0, 1), 2);
@@ -90,21 +47,6 @@ public final class PieceTest {
         Check.due("weigh: to the same", book.weigh(3, 9), 9);
         Check.due("weigh: is a change, also if nothing is different", book.count(7), 6);
         Check.same("weigh: all", Check.contents(book), "a 1,ab 3,cdef 9,bcd 9, /");
-        weighError("behind the last piece", 4, 5, SyllableBook.NO_SUCH);
-        weighError("piece -1", -1, 5, SyllableBook.NO_SUCH);
-        weighError("piece 16", 16, 5, SyllableBook.NO_SUCH);
-        weighError("greatest piece", Integer.MAX_VALUE, 5, SyllableBook.NO_SUCH);
-        weighError("least piece", Integer.MIN_VALUE, 5, SyllableBook.NO_SUCH);
-        weighError("weight 0", 0, 0, SyllableBook.BAD_VALUE);
-        weighError("weight 10", 3, 10, SyllableBook.BAD_VALUE);
-        weighError("piece ahead of weight", 4, 0, SyllableBook.NO_SUCH);
-    }
-
-    private static void weighError(String what, int piece, int weight, int error) {
-        SyllableBook book = Check.book(FOUR_PIECES, "");
-        String before = Check.everything(book);
-        Check.due("weigh: " + what, book.weigh(piece, weight), error);
-        Check.same("weigh: " + what + " changes nothing", Check.everything(book), before);
     }
 
     private static void drops() {

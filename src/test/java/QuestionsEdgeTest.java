@@ -277,6 +277,12 @@ public final class QuestionsEdgeTest {
         for (int what = 0; what <= 7; what++) {
             Edge.due("few, " + what, book.count(what), few[what]);
         }
+        // ab|C|D|E|F twice, ab five times
+        int[] uneven = {1, 2, 2 * 9 + 5, 2 * 6 + 5 * 2, 2 * 5 + 5, 2 * 4, 0, 3};
+        SyllableBook unlike = Check.book("ab 3", "abcdef 2,ab 5");
+        for (int what = 7; what >= 0; what--) {
+            Edge.due("unlike words, " + what, unlike.count(what), uneven[what]);
+        }
         int n = 8 * 12 * 99;
         int[] most = {0, 8, 2 * n, n, n, n, 0, 6};
         String words = String.join(",", Collections.nCopies(8, "abcdefabcdef 99"));
@@ -361,6 +367,7 @@ public final class QuestionsEdgeTest {
         }
         String words = String.join(",", Collections.nCopies(8, "ffffffffffff 99"));
         Edge.due("the most often", Check.book("", words).growing(1), 11 * 8 * 99);
+        growingAsGrow();
         Edge.promise(19, "BAD_VALUE if what is out of range");
         Edge.refused("what 7", () -> Check.book("", "fe 1"), b -> b.growing(7), Edge.BAD_VALUE);
         for (int what : FAR) {
@@ -377,6 +384,21 @@ public final class QuestionsEdgeTest {
         Edge.promise(19, "BAD_VALUE if what is out of range; NONE if there is no such text.");
         Edge.refused("both", Edge.empty("ab"), b -> b.growing(7), Edge.BAD_VALUE);
         Edge.refused("both, below", Edge.empty("ab"), b -> b.growing(-1), Edge.BAD_VALUE);
+    }
+
+    private static void growingAsGrow() {
+        Edge.promise(19, "Tells of the text that grow() would make a piece.");
+        SyllableBook book = Check.book("b 2,ab 3", "abab 3,fc 99,abcdef 5");
+        for (int number = 2; number < 16 && book.growing(0) > 0; number++) {
+            String text = Check.growingText(book);
+            int weight = book.growing(2);
+            Edge.due("letters", book.growing(0), text.length());
+            Edge.due("grow", book.grow(), number);
+            Edge.same("its text", Check.pieceText(book, number), text);
+            Edge.due("its weight", book.ofPiece(number, 1), weight);
+        }
+        Edge.due("until there is none", book.grow(), Edge.NOT_POSSIBLE);
+        Edge.due("until there is none", book.growing(1), Edge.NONE);
     }
 
     // ---- promise 20

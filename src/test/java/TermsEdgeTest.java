@@ -9,6 +9,7 @@ public final class TermsEdgeTest {
         firstErrorThatApplies();
         errorsChangeNothing();
         noneOnlyWithoutError();
+        numberedFrom0();
         roundedDown();
         lettersAToF();
         upTo16Pieces();
@@ -20,6 +21,8 @@ public final class TermsEdgeTest {
         wordOf1To12Letters();
         severalWordsTheSame();
         count1To99();
+        cutsMakeTheWord();
+        productOfACut();
         unseenSingleLetters();
         unseenWeight();
         eachWordHasACut();
@@ -97,6 +100,22 @@ public final class TermsEdgeTest {
         Edge.due("part: what of an unseen one", book.part(0, 0, 3), Edge.BAD_VALUE);
         Edge.due("growing: no text", book.growing(6), Edge.NONE);
         Edge.due("growing: no text, and what out of range", book.growing(7), Edge.BAD_VALUE);
+    }
+
+    private static void numberedFrom0() {
+        Edge.terms("Everything is numbered from 0.");
+        SyllableBook book = new SyllableBook();
+        Edge.due("the first piece", Check.piece(book, "g", 1), Edge.BAD_TEXT);
+        Edge.due("the first character", book.fault(), 0);
+        book.wipe();
+        Edge.due("the first piece", Check.piece(book, "ab", 1), 0);
+        Edge.due("the first word", Check.word(book, "cab", 1), 0);
+        Edge.due("the first letter", book.letter(0, 0), 2);
+        Edge.due("the first part", book.part(0, 0, 0), Edge.NONE);
+        Edge.due("the first place", book.part(0, 0, 1), 0);
+        Edge.due("the second part: piece 0", book.part(0, 1, 0), 0);
+        Edge.due("the first slot", book.save(0), 1);
+        Edge.due("nothing is number -1", book.ofPiece(-1, 0) + book.ofWord(-1, 0) + book.letter(0, -1) + book.part(0, -1, 0), -4);
     }
 
     private static void roundedDown() {
@@ -256,6 +275,35 @@ public final class TermsEdgeTest {
 
     // ---- cuts
 
+    private static void cutsMakeTheWord() {
+        Edge.terms("A cut of a word is a row of parts that make the word, one behind the other.");
+        for (var make : List.of(Edge.few(""), Edge.full(""))) {
+            SyllableBook book = make.get();
+            for (int word = 0; word < book.count(1); word++) {
+                String cut = Check.cut(book, word).toLowerCase();
+                Edge.same("word " + word, cut.replace("|", ""), Check.letters(book, word));
+                int place = 0;
+                for (int part = 0; part < book.ofWord(word, 2); part++) {
+                    Edge.due("word " + word + ", part " + part, book.part(word, part, 1), place);
+                    place += book.part(word, part, 2);
+                }
+                Edge.due("word " + word + ", its end", place, book.ofWord(word, 0));
+            }
+        }
+        // Pieces that overlap make no cut together, nor does one that starts ahead of the word.
+        Edge.due("overlapping pieces", Check.book("ab 1,bc 1", "abc 1").ofWord(0, 5), 3);
+        Edge.due("a piece that sticks out in front", Check.book("fab 9", "abc 1").ofWord(0, 5), 1);
+    }
+
+    private static void productOfACut() {
+        Edge.terms("The product of a cut is the product of the weights of its parts");
+        Edge.due("one part", Check.book("abcd 9", "abcd 1").product(0, 1), 9);
+        Edge.due("two parts", Check.book("ab 8,cd 9", "abcd 1").product(0, 1), 72);
+        Edge.due("one of them twice", Check.book("ab 8", "abab 1").product(0, 1), 64);
+        Edge.due("twelve parts", Check.book("a 2", "aaaaaaaaaaaa 1").product(0, 1), 4096);
+        Edge.due("without the count", Check.book("ab 8", "abab 99").product(0, 1), 64);
+    }
+
     private static void unseenSingleLetters() {
         Edge.terms("Each part is a piece of the book, or a single letter that is no piece of the book: an unseen one.");
         SyllableBook none = Check.book("", "ab 1");
@@ -322,6 +370,9 @@ public final class TermsEdgeTest {
         best("aa 1,aaa 1", "aaaa", "aaa|A");
         best("ab 1,cd 1,bcd 1", "abcd", "ab|cd");
         best("aaa 1,aa 1,abcd 1", "aaaabcd", "aaa|abcd");
+        // a shorter first part, but fewer parts in all
+        best("ab 1,bcde 1", "abcde", "A|bcde");
+        best("abc 2,ab 2,cdef 1,d 1,e 1,f 1", "abcdef", "ab|cdef");
     }
 
     private static void longestParts() {

@@ -5,7 +5,6 @@ public final class WordTest {
 
     public static void main(String[] args) {
         words();
-        wordErrors();
         counts();
         forgetting();
         aboutWords();
@@ -25,29 +24,6 @@ public final class WordTest {
         Check.due("word: 8 of them", Check.book("", EIGHT_WORDS).count(1), 8);
     }
 
-    private static void wordErrors() {
-        wordError("empty pad", "", "", 1, SyllableBook.BAD_TEXT);
-        wordError("13 letters", "", "aaaaaaaaaaaaa", 1, SyllableBook.BAD_TEXT);
-        wordError("16 letters", "", "aaaaaaaaaaaaaaaa", 1, SyllableBook.BAD_TEXT);
-        wordError("no letter g", "", "gab", 1, SyllableBook.BAD_TEXT);
-        wordError("last one no letter", "", "abcdefabcde~", 1, SyllableBook.BAD_TEXT);
-        wordError("count 0", "", "a", 0, SyllableBook.BAD_VALUE);
-        wordError("count 100", "", "a", 100, SyllableBook.BAD_VALUE);
-        wordError("least count", "", "a", Integer.MIN_VALUE, SyllableBook.BAD_VALUE);
-        wordError("greatest count", "", "a", Integer.MAX_VALUE, SyllableBook.BAD_VALUE);
-        wordError("a ninth", EIGHT_WORDS, "a", 1, SyllableBook.TOO_MANY);
-        wordError("text ahead of count", EIGHT_WORDS, "ag", 0, SyllableBook.BAD_TEXT);
-        wordError("count ahead of the number", EIGHT_WORDS, "a", 0, SyllableBook.BAD_VALUE);
-    }
-
-    private static void wordError(String what, String words, String pad, int count, int error) {
-        SyllableBook book = Check.book("ab 2", words);
-        Check.fill(book, pad);
-        String before = Check.everything(book);
-        Check.due("word: " + what, book.word(count), error);
-        Check.same("word: " + what + " changes nothing", Check.everything(book), before);
-    }
-
     private static void counts() {
         SyllableBook book = Check.book("", THREE_WORDS);
         Check.due("recount: to 99", book.recount(0, 99), 3);
@@ -55,20 +31,6 @@ public final class WordTest {
         Check.due("recount: to the same", book.recount(2, 1), 1);
         Check.due("recount: is a change, also if nothing is different", book.count(7), 6);
         Check.same("recount: all", Check.contents(book), " /abab 99,fedcba 1,c 1,");
-        recountError("behind the last word", 3, 1, SyllableBook.NO_SUCH);
-        recountError("word -1", -1, 1, SyllableBook.NO_SUCH);
-        recountError("word 8", 8, 1, SyllableBook.NO_SUCH);
-        recountError("greatest word", Integer.MAX_VALUE, 1, SyllableBook.NO_SUCH);
-        recountError("count 0", 0, 0, SyllableBook.BAD_VALUE);
-        recountError("count 100", 2, 100, SyllableBook.BAD_VALUE);
-        recountError("word ahead of count", 3, 100, SyllableBook.NO_SUCH);
-    }
-
-    private static void recountError(String what, int word, int count, int error) {
-        SyllableBook book = Check.book("", THREE_WORDS);
-        String before = Check.everything(book);
-        Check.due("recount: " + what, book.recount(word, count), error);
-        Check.same("recount: " + what + " changes nothing", Check.everything(book), before);
     }
 
     private static void forgetting() {
