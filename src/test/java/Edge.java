@@ -60,6 +60,10 @@ final class Edge {
         Check.same(sentence + which, got, want);
     }
 
+    static void isTrue(String which, boolean holds) {
+        Check.isTrue(sentence + which, holds);
+    }
+
     // ---- books to ask
 
     static Supplier<SyllableBook> empty(String pad) {
